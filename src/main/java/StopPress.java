@@ -597,13 +597,13 @@ public final class StopPress {
             if (one == other) {
                 return EQUAL;
             }
-            int group = groupOf(one);
-            return group != 0 && group == groupOf(other) ? SIMILAR : UNLIKE;
-        }
-
-        private static int groupOf(int code) {
-            int index = code - 'a';
-            return index >= 0 && index < GROUP_OF_LETTER.length ? GROUP_OF_LETTER[index] : 0;
+            int a = one - 'a';
+            int b = other - 'a';
+            if (a < 0 || a >= GROUP_OF_LETTER.length || b < 0 || b >= GROUP_OF_LETTER.length) {
+                return UNLIKE;
+            }
+            boolean similar = GROUP_OF_LETTER[a] != 0 && GROUP_OF_LETTER[a] == GROUP_OF_LETTER[b];
+            return similar ? SIMILAR : UNLIKE;
         }
     }
 
@@ -1159,8 +1159,9 @@ public final class StopPress {
         }
 
         int placeOf(int forme) {
-            for (int place = 0; place < orderLength(); place++) {
-                if (formeAt(place) == forme) {
+            int length = orderLength();
+            for (int place = 0; place < length && place < FORMES; place++) {
+                if (first[place] == forme) {
                     return place;
                 }
             }
