@@ -444,7 +444,7 @@ public final class StopPress {
         }
 
         int at(int index) {
-            return has(index) ? codes[index] : NONE;
+            return index >= 0 && index < length ? codes[index] : NONE;
         }
 
         void append(int code) {
