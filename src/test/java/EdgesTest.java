@@ -34,18 +34,46 @@ public final class EdgesTest {
     private static int wrong = 0;
 
     public static void main(String[] args) throws Exception {
+        calls512();
         errors();
         copies();
+        bandAndLetters();
         alignments();
+        bestAlignments();
         states();
+        groups();
+        trees();
+        reversions();
         sightings();
+        seenFormes();
         formes();
-        promises1To7();
-        promises8To12();
-        promises13To16();
-        promises17To19();
-        promises20To22();
-        promises23To24();
+        orders();
+        faults();
+        standing();
+        promise1();
+        promise2();
+        promise3();
+        promise4();
+        promise5();
+        promise6();
+        promise7();
+        promise8();
+        promise9();
+        promise10();
+        promise11();
+        promise12();
+        promise13();
+        promise14();
+        promise15();
+        promise16();
+        promise17();
+        promise18();
+        promise19();
+        promise20();
+        promise21();
+        promise22();
+        promise23();
+        promise24();
         endOfSentence();
         checkQuotes(Files.readString(Path.of("../shared/DOC.md")));
         System.out.println(sentences + " sentences, " + asked + " answers asked, " + wrong + " wrong");
@@ -221,13 +249,73 @@ public final class EdgesTest {
         return x;
     }
 
+    /** There are six copies of one state. */
+    private static Press oneState() {
+        return with("a", "a", "a", "a", "a", "a");
+    }
+
+    /** There are six states that differ from one another at all of the 24 places. */
+    private static Press sixStates() {
+        return with("a".repeat(24), "d".repeat(24), "g".repeat(24), "k".repeat(24), "m".repeat(24), "p".repeat(24));
+    }
+
+    /** All copies but copy 0 are excluded. */
+    private static Press fiveExcluded() {
+        return with("a", "aaaaa", "aaaaaa", "aaaaaaa", "aaaaaaaa", "aaaaaaaaa");
+    }
+
+    /** The states aaaaaa, dddaaa and adddda make a chain, at the end of which a comes back; copy 1 is excluded. */
+    private static Press comingBack() {
+        return with("aaaaaa", "aaaaaaaaaa", "dddaaa", "adddda", "dddaaa", "aaaaaa");
+    }
+
+    /** Type 0 is on all formes; the last one is the least worn. */
+    private static Press chainBack() {
+        Press x = new Press();
+        for (int forme = 0; forme < 6; forme++) {
+            x.see(0, forme, 0, 9 - forme);
+        }
+        return x;
+    }
+
+    /** Each forme has a type of its own. */
+    private static Press sixFree() {
+        Press x = new Press();
+        for (int forme = 0; forme < 6; forme++) {
+            x.see(forme, forme, 0, 1);
+        }
+        return x;
+    }
+
+    private static Press circle() {
+        return fillSightings(new Press());
+    }
+
+    /** The only sighting was removed. */
+    private static Press bare() {
+        return removed(new Press().seeAll(new int[] {0, 3, 1}), 0);
+    }
+
+    /** All types are on forme 5. */
+    private static Press allTypes() {
+        Press x = new Press();
+        for (int type = 0; type < 6; type++) {
+            x.see(type, 5, type, 9);
+        }
+        return x;
+    }
+
+    private static Press oneSighting() {
+        return new Press().seeAll(new int[] {5, 5, 9});
+    }
+
     private static Press odd() {
         return some().type("!");
     }
 
     // ---- what is said of errors
 
-    private static void errors() {
+    private static void calls512() {
         String heading = "What it is";
         sentence(heading, "An object is used for at most 512 calls after it has been made");
         Press x = new Press();
@@ -246,11 +334,13 @@ public final class EdgesTest {
         }
         due("count(5)", x.count(5), 255);
         due("the 512th call", x.formes(1), 1);
+    }
 
-        heading = "Description";
-        sentence(heading, "Error codes: UNKNOWN (-101): something with this number does not exist; OUTSIDE (-102): an argument"
-                + " is out of range; STATE (-103): the call is not possible at present, as the method says; FULL (-104): a"
-                + " limit is reached.");
+    private static void errors() {
+        String heading = "Description";
+        sentence(heading, "Error codes: UNKNOWN (-101): something with this number does not exist; OUTSIDE (-102):"
+                + " an argument is out of range; STATE (-103): the call is not possible at present, as the method"
+                + " says; FULL (-104): a limit is reached.");
         due("UNKNOWN", StopPress.UNKNOWN, -101);
         due("OUTSIDE", StopPress.OUTSIDE, -102);
         due("STATE", StopPress.STATE, -103);
@@ -265,8 +355,8 @@ public final class EdgesTest {
         sentence(heading, "A call that returns an error code changes nothing.");
         changesNothing();
 
-        sentence(heading, "NONE (-1) is not an error code; it means that there is no such value, and is returned only if no"
-                + " error code applies.");
+        sentence(heading, "NONE (-1) is not an error code; it means that there is no such value, and is returned"
+                + " only if no error code applies.");
         due("NONE", StopPress.NONE, -1);
         due("copy 2 has no state", some().of(2, 1), -1);
         dueEach("of an excluded copy", new int[] {5, -1, MIN, MAX}, OUTSIDE, v -> some().of(2, v));
@@ -279,7 +369,7 @@ public final class EdgesTest {
         due("order(0) without formes", new Press().order(0), UNKNOWN);
 
         sentence(heading, "Sets are bit masks: bit k is for number k.");
-        x = new Press().seeAll(new int[][] {{0, 0, 1}, {0, 5, 2}, {5, 3, 1}});
+        Press x = new Press().seeAll(new int[][] {{0, 0, 1}, {0, 5, 2}, {5, 3, 1}});
         due("types 0 and 5", x.formes(5), 1 | 1 << 5);
         due("forme 0 is ahead of 5", x.forme(0, 1), 1 << 5);
         due("forme 3 stands with 0 and 5", x.forme(3, 2), 1 | 1 << 5);
@@ -332,7 +422,7 @@ public final class EdgesTest {
 
     private static void dueTheSame(String name, Press x, Press twin) {
         due(name + ": digest", x.digest(), twin.digest());
-        due(name + ": steps", Arrays.hashCode(answers(47, i -> x.step(0, 1, i))), Arrays.hashCode(answers(47, i -> twin.step(0, 1, i))));
+        dueAll(name + ": steps", answers(47, i -> x.step(0, 1, i)), answers(47, i -> twin.step(0, 1, i)));
         due(name + ": next letter", x.letter('a'), twin.letter('a'));
         due(name + ": next sighting", x.see(5, 2, 9, 9), twin.see(5, 2, 9, 9));
         due(name + ": next copy", x.copy(), twin.copy());
@@ -423,23 +513,26 @@ public final class EdgesTest {
         dueAll("lengths", answers(3, i -> y.of(i, 0)), 1, 1, 24, 24);
         due("the first letter of 24", y.sign(3, 0), 'z');
         due("the last letter of 24", y.sign(3, 23), 'x');
+    }
 
+    private static void bandAndLetters() {
+        String heading = "Description";
         sentence(heading, "The band is 0 to 9, and 3 at first.");
         due("at first", new Press().count(3), 3);
         due("at first", new Press().band(5), 3);
         for (int v = 0; v <= 9; v++) {
-            x = new Press();
+            Press x = new Press();
             due("band(" + v + ")", x.band(v), 3);
             due("the band", x.count(3), v);
         }
         due("band(-1)", new Press().band(-1), OUTSIDE);
         due("band(10)", new Press().band(10), OUTSIDE);
 
-        sentence(heading, "Two letters are similar if they are equal, or belong to the same one of these groups: i j l; n u v;"
-                + " f s; c e o; b h; r t.");
+        sentence(heading, "Two letters are similar if they are equal, or belong to the same one of these groups: i"
+                + " j l; n u v; f s; c e o; b h; r t.");
         String[] groups = {"ijl", "nuv", "fs", "ceo", "bh", "rt"};
         for (char a = 'a'; a <= 'z'; a++) {
-            x = with("" + a, "a");
+            Press x = with("" + a, "a");
             for (char b = 'a'; b <= 'z'; b++) {
                 x.letter(b);
                 x.correct(1);
@@ -454,42 +547,45 @@ public final class EdgesTest {
 
     private static void alignments() {
         String heading = "Description";
-        sentence(heading, "An alignment of two copies, the first and the second one, is a sequence of steps until no letter of"
-                + " either is left");
+        sentence(heading, "An alignment of two copies, the first and the second one, is a sequence of steps until"
+                + " no letter of either is left");
         Press x = with("abcd", "ab", "abcd");
         dueSteps(x, 0, 1, "0011");
         dueSteps(x, 1, 0, "0022");
         dueSteps(x, 0, 2, "0000");
         mostSteps();
 
-        sentence(heading, "step 0 (pair) takes the next letter of each; it costs 0 if they are equal, 1 if they are similar but"
-                + " not equal, else 3.");
+        sentence(heading, "step 0 (pair) takes the next letter of each; it costs 0 if they are equal, 1 if they are"
+                + " similar but not equal, else 3.");
         due("24 equal pairs", with(LONG, LONG).collate(0, 1, 0), 0);
         due("24 similar pairs", with("i".repeat(24), "l".repeat(24)).collate(0, 1, 0), 24);
         due("24 other pairs", with("a".repeat(24), "z".repeat(24)).collate(0, 1, 0), 72);
         dueSteps(with("a", "z"), 0, 1, "0");
 
-        sentence(heading, "Step 1 (left out) takes the next letter of the first copy, and step 2 (added) takes the next letter of"
-                + " the second copy; each costs 2.");
+        sentence(heading, "Step 1 (left out) takes the next letter of the first copy, and step 2 (added) takes the"
+                + " next letter of the second copy; each costs 2.");
         due("one left out", with("ab", "a").collate(0, 1, 0), 2);
         due("one added", with("a", "ab").collate(0, 1, 0), 2);
         due("three left out", with("abcd", "d").collate(0, 1, 0), 6);
         due("three added", with("d", "abcd").collate(0, 1, 0), 6);
         dueSteps(with("abcd", "d"), 0, 1, "1110");
         dueSteps(with("d", "abcd"), 0, 1, "2220");
+    }
 
-        sentence(heading, "Before each step and after the last one, the numbers of letters that have been taken from the two copies"
-                + " differ by at most the band.");
+    private static void bestAlignments() {
+        String heading = "Description";
+        sentence(heading, "Before each step and after the last one, the numbers of letters that have been taken"
+                + " from the two copies differ by at most the band.");
         for (int band = 1; band <= 9; band++) {
             shiftedBy(band);
         }
-        x = with("xadg", "adgx");
+        Press x = with("xadg", "adgx");
         x.band(0);
         dueSteps(x, 0, 1, "0000");
         due("pairs alone", x.collate(0, 1, 0), 12);
 
-        sentence(heading, "The best alignment is the one with the smallest sum of costs; of several the lexicographically smallest"
-                + " sequence of steps.");
+        sentence(heading, "The best alignment is the one with the smallest sum of costs; of several the"
+                + " lexicographically smallest sequence of steps.");
         x = with("aa", "a", "ab", "ba", "xk", "aaaa");
         dueSteps(x, 0, 1, "01");
         dueSteps(x, 1, 0, "02");
@@ -565,9 +661,9 @@ public final class EdgesTest {
         due("the place 23", z.reading(0, 23), 'x');
         due("the place 24", z.reading(0, 24), UNKNOWN);
 
-        sentence(heading, "The reading of a copy at a place is, by the best alignment of copy 0 (as the first one) and this copy"
-                + " (as the second one), the letter that is paired with the letter at this place, or no letter, if that one is"
-                + " left out. (Added letters do not matter for readings.)");
+        sentence(heading, "The reading of a copy at a place is, by the best alignment of copy 0 (as the first one)"
+                + " and this copy (as the second one), the letter that is paired with the letter at this place, or"
+                + " no letter, if that one is left out. (Added letters do not matter for readings.)");
         Press r = with("aa", "a", "xaya", "ab", "ba");
         dueAll("a", answers(1, p -> r.reading(1, p)), 'a', NONE);
         dueAll("xaya", answers(1, p -> r.reading(2, p)), 'a', 'a');
@@ -585,8 +681,12 @@ public final class EdgesTest {
         dueAll("by the band 0", answers(3, c -> e.of(c, 1)), 0, NONE, NONE, NONE);
         e.band(4);
         dueAll("by the band 4", answers(3, c -> e.of(c, 1)), 0, 1, 0, 0);
+    }
 
-        sentence(heading, "Copies that are not excluded and have the same reading at each place belong to the same state.");
+    private static void groups() {
+        String heading = "Description";
+        sentence(heading, "Copies that are not excluded and have the same reading at each place belong to the same"
+                + " state.");
         Press g = with("abc", "abcx", "xabc", "ab", "abz", "abcdefgh");
         dueAll("states", answers(5, c -> g.of(c, 1)), 0, 0, 0, 1, 2, NONE);
         Press h = with("abc", "ac", "axc", "ac");
@@ -594,22 +694,21 @@ public final class EdgesTest {
         Press last = with(LONG, LONG.substring(0, 23) + "z", "z" + LONG.substring(1));
         dueAll("one place of 24 differs", answers(2, c -> last.of(c, 1)), 0, 1, 2);
 
-        sentence(heading, "States are numbered from 0 in the order of their first copies; so copy 0 belongs to state 0.");
+        sentence(heading, "States are numbered from 0 in the order of their first copies; so copy 0 belongs to"
+                + " state 0.");
         Press n = with("aa", "aaaaaa", "ab", "aa", "ax", "ab");
         dueAll("states", answers(5, c -> n.of(c, 1)), 0, NONE, 1, 0, 2, 1);
         dueAll("first copies", answers(3, v -> n.state(v, 0)), 0, 2, 4, UNKNOWN);
         Press six = with("aa", "ab", "ac", "ad", "ae", "af");
         dueAll("six states", answers(6, v -> six.state(v, 0)), 0, 1, 2, 3, 4, 5, UNKNOWN);
 
-        sentence(heading, "The distance of two states is the number of places where their readings are different (no letter is also"
-                + " different from a letter).");
+        sentence(heading, "The distance of two states is the number of places where their readings are different"
+                + " (no letter is also different from a letter).");
         Press d = with("adgk", "agk", "axgk", "zyxw");
         dueAll("from state 1", answers(3, v -> d.far(1, v)), 1, 0, 1, 4);
         due("all 24 places", with("a".repeat(24), "z".repeat(24)).far(0, 1), 24);
         due("no letters at 9 places", withBand(9, "a".repeat(24), "a".repeat(15)).far(0, 1), 9);
         due("it has no sign", d.far(3, 1), 4);
-
-        trees();
     }
 
     private static Press withBand(int band, String... words) {
@@ -620,10 +719,10 @@ public final class EdgesTest {
 
     private static void trees() {
         String heading = "Description";
-        sentence(heading, "The states are connected by a tree: at first only state 0 belongs to it. Then, again and again, until all"
-                + " states belong to it, of all pairs of a state U in the tree and a state V not in it, the pair with the smallest"
-                + " distance is taken (of several the one with the smallest U, then with the smallest V); V belongs to the tree"
-                + " then, and U is its parent.");
+        sentence(heading, "The states are connected by a tree: at first only state 0 belongs to it. Then, again and"
+                + " again, until all states belong to it, of all pairs of a state U in the tree and a state V not"
+                + " in it, the pair with the smallest distance is taken (of several the one with the smallest U,"
+                + " then with the smallest V); V belongs to the tree then, and U is its parent.");
         Press alone = with("a");
         dueAll("state 0 alone", answers(6, what -> alone.state(0, what)), 0, 1, NONE, 0, 0, 0, 0);
         // 1 and 2 are both 2 from 0 and from one another: 0 is the smallest U, then 1 the smallest V.
@@ -639,13 +738,17 @@ public final class EdgesTest {
         dueAll("parents", answers(5, v -> chain.state(v, 2)), NONE, 0, 0, 1, 3, 4);
         dueAll("indices", answers(5, v -> chain.state(v, 6)), 0, 1, 5, 2, 3, 4);
 
-        sentence(heading, "The ancestors of a state are its parent, the parent of this one, and so on up to state 0.");
+        sentence(heading, "The ancestors of a state are its parent, the parent of this one, and so on up to state"
+                + " 0.");
         dueAll("numbers of ancestors", answers(5, v -> chain.state(v, 4)), 0, 1, 1, 2, 3, 4);
         Press longest = with("aaaaa", "daaaa", "ddaaa", "dddaa", "dddda", "ddddd");
         dueAll("a chain of six", answers(5, v -> longest.state(v, 4)), 0, 1, 2, 3, 4, 5);
+    }
 
-        sentence(heading, "A place is reverted at a state if the reading there is different from that of its parent, but equal to"
-                + " that of some ancestor of its parent.");
+    private static void reversions() {
+        String heading = "Description";
+        sentence(heading, "A place is reverted at a state if the reading there is different from that of its"
+                + " parent, but equal to that of some ancestor of its parent.");
         // 0 - 1 - 2 - 3: the last place has w, no letter, z, no letter.
         Press x = with("adgkmpqw", "xxgkmpq", "xxyympqz", "xxyyzpq");
         dueAll("parents", answers(3, v -> x.state(v, 2)), NONE, 0, 1, 2);
@@ -662,7 +765,8 @@ public final class EdgesTest {
         due("one place in all", z.states(4), 1);
         due("the parent has no ancestor", with("aa", "da").turned(1, 0), 0);
         due("state 0 has no parent", with("aa", "da").turned(0, 0), 0);
-        due("the place 23", with("a".repeat(24), "ddd" + "a".repeat(20) + "d", "ddd" + "g".repeat(2) + "a".repeat(19)).turned(2, 23), 1);
+        Press end = with("a".repeat(24), "ddd" + "a".repeat(20) + "d", "dddgg" + "a".repeat(19));
+        due("the place 23", end.turned(2, 23), 1);
     }
 
     // ---- section 3
@@ -682,13 +786,14 @@ public final class EdgesTest {
         due("forme -1", new Press().see(0, -1, 0, 1), OUTSIDE);
 
         sentence(heading, "There are at most 12 sightings, numbered from 0.");
-        Press x = fillSightings(new Press());
+        Press x = circle();
         due("sightings", x.count(1), 12);
         due("the twelfth's forme", x.seen(11, 1), 0);
         due("a thirteenth", x.see(3, 0, 9, 1), FULL);
         due("seen(12, 0)", x.seen(12, 0), UNKNOWN);
 
-        sentence(heading, "A sighting says that a type was seen on a forme at a spot (0 to 9), with a wear (1 to 9).");
+        sentence(heading, "A sighting says that a type was seen on a forme at a spot (0 to 9), with a wear (1 to"
+                + " 9).");
         for (int v = 0; v <= 9; v++) {
             Press y = new Press();
             due("spot " + v, y.see(0, 0, v, 1), 0);
@@ -700,7 +805,10 @@ public final class EdgesTest {
         due("spot -1", new Press().see(0, 0, -1, 1), OUTSIDE);
         due("wear 10", new Press().see(0, 0, 0, 10), OUTSIDE);
         due("wear -1", new Press().see(0, 0, 0, -1), OUTSIDE);
+    }
 
+    private static void seenFormes() {
+        String heading = "Description";
         sentence(heading, "On one forme, no type is in two sightings, and no spot is in two sightings.");
         Press y = new Press();
         y.see(0, 0, 0, 1);
@@ -723,7 +831,7 @@ public final class EdgesTest {
         due("one sighting is left", z.formes(0), 1);
         z.unsee(0);
         due("none is left", z.formes(0), 0);
-        due("all", fillSightings(new Press()).formes(0), 6);
+        due("all", circle().formes(0), 6);
     }
 
     private static void formes() {
@@ -744,47 +852,42 @@ public final class EdgesTest {
         // 0 before 1 by type 0, 1 before 2 by type 1: this does not put 0 ahead of 2.
         Press chain = new Press().seeAll(new int[][] {{0, 0, 1}, {0, 1, 2}, {1, 1, 1}, {1, 2, 2}});
         dueAll("not by way of others", answers(2, f -> chain.forme(f, 1)), 2, 4, 0);
+    }
 
-        sentence(heading, "An order is a sequence of all seen formes in which each forme that is ahead of another one comes before"
-                + " that one.");
+    private static void orders() {
+        String heading = "Description";
+        sentence(heading, "An order is a sequence of all seen formes in which each forme that is ahead of another"
+                + " one comes before that one.");
         due("no forme: the empty one", new Press().formes(1), 1);
         due("one forme", new Press().seeAll(new int[] {0, 5, 1}).formes(1), 1);
-        due("a chain of six", all.formes(1), 1);
-        due("a circle of six", fillSightings(new Press()).formes(1), 0);
-        due("a circle of two", each.formes(1), 0);
-        Press free = new Press();
-        for (int forme = 0; forme < 6; forme++) {
-            free.see(forme, forme, 0, 1);
-        }
+        due("a chain of six", chainBack().formes(1), 1);
+        due("a circle of six", circle().formes(1), 0);
+        due("a circle of two", new Press().seeAll(new int[][] {{0, 0, 1}, {0, 1, 2}, {1, 1, 1}, {1, 0, 2}}).formes(1), 0);
+        Press free = sixFree();
         due("six free ones", free.formes(1), 720);
+        Press chain = new Press().seeAll(new int[][] {{0, 0, 1}, {0, 1, 2}, {1, 1, 1}, {1, 2, 2}});
         due("a chain of three", chain.formes(1), 1);
         due("with a free forme", chain.seeAll(new int[] {5, 5, 1}).formes(1), 4);
 
         sentence(heading, "The first order is the lexicographically smallest one.");
         dueAll("six free ones", answers(6, free::order), 0, 1, 2, 3, 4, 5, UNKNOWN);
-        Press back = new Press();
-        for (int forme = 0; forme < 6; forme++) {
-            back.see(0, forme, 0, 9 - forme);
-        }
-        dueAll("a chain back", answers(6, back::order), 5, 4, 3, 2, 1, 0, UNKNOWN);
+        dueAll("a chain back", answers(6, chainBack()::order), 5, 4, 3, 2, 1, 0, UNKNOWN);
         Press late = new Press().seeAll(new int[][] {{0, 5, 1}, {0, 0, 2}, {1, 3, 1}, {2, 1, 1}});
         dueAll("5 before 0", answers(4, late::order), 1, 3, 5, 0, UNKNOWN);
-
-        faults();
-        standing();
     }
 
     private static void faults() {
         String heading = "Description";
-        sentence(heading, "The fault is the smallest set of sightings such that, if they are left out, there is an order by the other"
-                + " sightings (of the formes that are seen by those); of several with the fewest sightings the smallest int.");
+        sentence(heading, "The fault is the smallest set of sightings such that, if they are left out, there is an"
+                + " order by the other sightings (of the formes that are seen by those); of several with the fewest"
+                + " sightings the smallest int.");
         // 0 before 1 by the sightings 0 3 and 6 7, 1 before 0 by 1 4 and 2 5: so 1 and 2, as 6 is less than 65.
         Press two = new Press().seeAll(new int[][] {
             {0, 1, 6}, {1, 1, 7}, {3, 0, 5}, {0, 0, 3}, {1, 0, 8}, {3, 1, 4}, {2, 1, 8}, {2, 0, 6}
         });
         due("the fault", two.formes(3), 6);
         due("its sightings", two.formes(2), 2);
-        due("a circle of six", fillSightings(new Press()).formes(3), 1);
+        due("a circle of six", circle().formes(3), 1);
         due("one with a great number, not two with small ones", onlyTheLastIsWrong().formes(3), 2048);
         due("its sightings", onlyTheLastIsWrong().formes(2), 1);
         // Both types are on all formes, once forth and once back: of one type all but one must go.
@@ -803,7 +906,7 @@ public final class EdgesTest {
         due("no sighting", new Press().formes(2), 0);
         due("an order", some().formes(3), 0);
         due("an order", some().formes(2), 0);
-        Press mended = fillSightings(new Press());
+        Press mended = circle();
         due("no order", mended.formes(2), 1);
         mended.unsee(11);
         due("an order again", mended.formes(3), 0);
@@ -817,15 +920,13 @@ public final class EdgesTest {
         Press x = new Press().seeAll(new int[][] {{0, 0, 1}, {1, 0, 1}, {1, 1, 1}, {2, 2, 1}, {0, 3, 9}});
         dueAll("companions", answers(5, f -> x.forme(f, 2)), 1 << 2, 1 << 2 | 1 << 3, 1 | 2 | 1 << 3, 2 | 1 << 2, 0, 0);
         due("one forme alone", new Press().seeAll(new int[] {0, 3, 1}).forme(3, 2), 0);
-        Press free = new Press();
-        for (int forme = 0; forme < 6; forme++) {
-            free.see(forme, forme, 0, 1);
-        }
+        Press free = sixFree();
         dueAll("all together", answers(5, f -> free.forme(f, 2)), 62, 61, 59, 55, 47, 31);
 
-        sentence(heading, "The presses are numbered from 0; each seen forme is assigned to a press, so that any two formes on the same"
-                + " press can stand together, with as few presses as possible; of several ways the one in which the seen forme with"
-                + " the smallest number has the press with the smallest number, then the next forme, and so on.");
+        sentence(heading, "The presses are numbered from 0; each seen forme is assigned to a press, so that any two"
+                + " formes on the same press can stand together, with as few presses as possible; of several ways"
+                + " the one in which the seen forme with the smallest number has the press with the smallest"
+                + " number, then the next forme, and so on.");
         due("no forme, no press", new Press().formes(4), 0);
         dueAll("one press for all", answers(5, f -> free.forme(f, 4)), 0, 0, 0, 0, 0, 0);
         due("one press", free.formes(4), 1);
@@ -835,7 +936,7 @@ public final class EdgesTest {
         }
         dueAll("six presses", answers(5, f -> one.forme(f, 4)), 0, 1, 2, 3, 4, 5);
         due("six presses", one.formes(4), 6);
-        Press circle = fillSightings(new Press());
+        Press circle = circle();
         dueAll("a circle of six", answers(5, f -> circle.forme(f, 4)), 0, 1, 0, 1, 0, 1);
         // The path 0 - 2 - 3 - 1: with two presses 1 cannot be on press 0.
         Press path = new Press().seeAll(new int[][] {{0, 0, 1}, {0, 2, 1}, {1, 2, 1}, {1, 3, 1}, {2, 3, 1}, {2, 1, 1}});
@@ -855,7 +956,7 @@ public final class EdgesTest {
 
     // ---- the promises
 
-    private static void promises1To7() {
+    private static void promise1() {
         String heading = "Promise 1";
         sentence(heading, "Creates an object without copies and sightings, with an empty page and the band 3.");
         Press x = new Press();
@@ -867,9 +968,12 @@ public final class EdgesTest {
         due("sighting 0", x.seen(0, 0), UNKNOWN);
         due("page", x.blank(), 0);
         due("another object is not touched", untouchedBeside(full()), new Press().digest());
+    }
 
-        heading = "Promise 2";
-        sentence(heading, "Appends a character, given by its code, to the page. @return how many characters the page has then");
+    private static void promise2() {
+        String heading = "Promise 2";
+        sentence(heading, "Appends a character, given by its code, to the page. @return how many characters the"
+                + " page has then");
         Press page = new Press();
         dueAll("letters", answers(23, i -> page.letter(LONG.charAt(i))), answers(23, i -> i + 1));
         page.copy();
@@ -887,8 +991,10 @@ public final class EdgesTest {
         due("the letter 25 again", line.letter(32), FULL);
         due("the page", line.blank(), 24);
         due("after blank", line.letter('a'), 1);
+    }
 
-        heading = "Promise 3";
+    private static void promise3() {
+        String heading = "Promise 3";
         sentence(heading, "Empties the page. @return how many characters it had.");
         Press y = new Press();
         due("an empty page", y.blank(), 0);
@@ -899,11 +1005,10 @@ public final class EdgesTest {
         due("the next letter is the first", y.letter('a'), 1);
         y.copy();
         due("nothing of the page before", y.of(0, 0), 1);
+    }
 
-        promise4();
-        promise5();
-
-        heading = "Promise 6";
+    private static void promise6() {
+        String heading = "Promise 6";
         sentence(heading, "Removes the copy with the greatest number. @return how many copies are left");
         Press d = with("a", "ab", "abc", "abcd", "abc", "ab");
         for (int left = 5; left >= 0; left--) {
@@ -918,8 +1023,10 @@ public final class EdgesTest {
         due("a new object", new Press().drop(), STATE);
         due("after the last one", d.drop(), STATE);
         due("a page alone is none", new Press().type("a").drop(), STATE);
+    }
 
-        heading = "Promise 7";
+    private static void promise7() {
+        String heading = "Promise 7";
         sentence(heading, "Sets the band to v. @return the band before the call");
         Press b = new Press();
         int before = 3;
@@ -982,7 +1089,8 @@ public final class EdgesTest {
 
     private static void promise5() {
         String heading = "Promise 5";
-        sentence(heading, "Replaces a copy by the page, and empties the page. @return how many letters the copy had before");
+        sentence(heading, "Replaces a copy by the page, and empties the page. @return how many letters the copy had"
+                + " before");
         Press x = with(LONG, "a", "abc");
         due("24 letters before", x.type("z").correct(0), 24);
         due("the page is empty", x.count(2), 0);
@@ -1008,7 +1116,7 @@ public final class EdgesTest {
         }
     }
 
-    private static void promises8To12() {
+    private static void promise8() {
         String heading = "Promise 8";
         Press x = with("adgk", "adg", "adgkxyz", "a", "adgkxyzz", "ydgz");
         sentence(heading, "0: how many letters it has");
@@ -1020,7 +1128,8 @@ public final class EdgesTest {
         dueAll("costs", answers(5, c -> x.of(c, 2)), 0, 2, 6, 6, NONE, 6);
         sentence(heading, "3: how many letters are added in it");
         dueAll("added letters", answers(5, c -> x.of(c, 3)), 0, 0, 3, 0, NONE, 0);
-        sentence(heading, "4: at how many places the reading of this copy is not the letter of copy 0 (also if it is no letter).");
+        sentence(heading, "4: at how many places the reading of this copy is not the letter of copy 0 (also if it"
+                + " is no letter).");
         dueAll("places", answers(5, c -> x.of(c, 4)), 0, 1, 0, 3, NONE, 2);
         due("all 24 places", with("a".repeat(24), "z".repeat(24)).of(1, 4), 24);
         due("similar letters are others", with("i", "j").of(1, 4), 1);
@@ -1037,8 +1146,10 @@ public final class EdgesTest {
         sentence(heading, "OUTSIDE if what is not 0 to 4");
         dueEach("of(0, v)", outside(0, 4), OUTSIDE, v -> some().of(0, v));
         dueEach("of(2, v)", outside(0, 4), OUTSIDE, v -> some().of(2, v));
+    }
 
-        heading = "Promise 9";
+    private static void promise9() {
+        String heading = "Promise 9";
         sentence(heading, "Returns the code of a letter of a copy, by its index, from 0");
         dueAll("letters", answers(23, i -> full().sign(0, i)), answers(23, i -> LONG.charAt(i)));
         due("a letter of another copy", full().sign(5, 0), 'z');
@@ -1051,14 +1162,15 @@ public final class EdgesTest {
         dueEach("sign(1, v)", outside(0, 2), UNKNOWN, v -> some().sign(1, v));
         due("longer copies before do not count", with("abc", "a").sign(1, 1), UNKNOWN);
         due("the page does not count", new Press().type("a").sign(0, 0), UNKNOWN);
+    }
 
-        promise10();
-
-        heading = "Promise 11";
+    private static void promise11() {
+        String heading = "Promise 11";
         sentence(heading, "Returns a step (0 to 2) of the best alignment of two copies, by its index, from 0");
         dueAll("all three", answers(2, i -> with("ab", "ba").step(0, 1, i)), 1, 0, 2);
         due("the only step", with("a", "z").step(0, 1, 0), 0);
-        sentence(heading, "UNKNOWN if one of the copies does not exist, if there is no alignment, or if it has no such step");
+        sentence(heading, "UNKNOWN if one of the copies does not exist, if there is no alignment, or if it has no"
+                + " such step");
         dueEach("step(v, 0, 0)", outside(0, 2), UNKNOWN, v -> some().step(v, 0, 0));
         dueEach("step(0, v, 0)", outside(0, 2), UNKNOWN, v -> some().step(0, v, 0));
         dueEach("step(0, 1, v)", outside(0, 3), UNKNOWN, v -> some().step(0, 1, v));
@@ -1073,8 +1185,10 @@ public final class EdgesTest {
         fewer.type("ab").correct(0);
         fewer.type("ab").correct(1);
         due("only two steps now", fewer.step(0, 1, 2), UNKNOWN);
+    }
 
-        heading = "Promise 12";
+    private static void promise12() {
+        String heading = "Promise 12";
         sentence(heading, "Returns the code of the reading of a copy at a place");
         dueAll("copy 0 reads its letters", answers(23, p -> full().reading(0, p)), answers(23, p -> LONG.charAt(p)));
         dueAll("another letter", answers(2, p -> with("abc", "azc").reading(1, p)), 'a', 'z', 'c');
@@ -1109,8 +1223,8 @@ public final class EdgesTest {
         Press z = with("ab", "a");
         dueAll("left out", answers(6, w -> z.collate(0, 1, w)), 2, 2, 1, 0, 0, 1, 0);
         dueAll("added", answers(6, w -> z.collate(1, 0, w)), 2, 2, 1, 0, 0, 0, 1);
-        sentence(heading, "0: its cost; 1: the number of its steps; 2: pairs of equal letters; 3: pairs of letters that are similar but"
-                + " not equal; 4: other pairs; 5: letters left out; 6: letters added.");
+        sentence(heading, "0: its cost; 1: the number of its steps; 2: pairs of equal letters; 3: pairs of letters"
+                + " that are similar but not equal; 4: other pairs; 5: letters left out; 6: letters added.");
         Press each = with("adiwk", "ajqkz");
         // a-a, d left out, i-j, w-q, k-k, z added
         dueAll("one of each, two equal pairs", answers(6, w -> each.collate(0, 1, w)), 8, 6, 2, 1, 1, 1, 1);
@@ -1134,20 +1248,21 @@ public final class EdgesTest {
         dueEach("collate(0, 2, v)", outside(0, 6), OUTSIDE, v -> some().collate(0, 2, v));
     }
 
-    private static void promises13To16() {
+    private static void promise13() {
         String heading = "Promise 13";
-        sentence(heading, "0: how many states there are; 1: how many copies are excluded; 2: the sum of the distances of all states"
-                + " other than state 0 from their parents; 3: at how many places not all states have the same reading; 4: the"
-                + " number of pairs of a state and a place that is reverted at it; 5: how many states are the parent of no state");
+        sentence(heading, "0: how many states there are; 1: how many copies are excluded; 2: the sum of the"
+                + " distances of all states other than state 0 from their parents; 3: at how many places not all"
+                + " states have the same reading; 4: the number of pairs of a state and a place that is reverted at"
+                + " it; 5: how many states are the parent of no state");
         Press none = new Press();
         dueAll("no copy", answers(5, none::states), 0, 0, 0, 0, 0, 0);
         Press one = with(LONG);
         dueAll("one copy", answers(5, one::states), 1, 0, 0, 0, 0, 1);
-        Press excluded = with("a", "aaaaa", "aaaaaa", "aaaaaaa", "aaaaaaaa", "aaaaaaaaa");
+        Press excluded = fiveExcluded();
         dueAll("five excluded", answers(5, excluded::states), 1, 5, 0, 0, 0, 1);
-        Press same = with("a", "a", "a", "a", "a", "a");
+        Press same = oneState();
         dueAll("six copies of one state", answers(5, same::states), 1, 0, 0, 0, 0, 1);
-        Press far = with("a".repeat(24), "d".repeat(24), "g".repeat(24), "k".repeat(24), "m".repeat(24), "p".repeat(24));
+        Press far = sixStates();
         dueAll("each place differs", answers(5, far::states), 6, 0, 120, 24, 0, 5);
         Press gone = with("a", "d");
         gone.drop();
@@ -1156,16 +1271,20 @@ public final class EdgesTest {
         sentence(heading, "OUTSIDE if what is not 0 to 5");
         dueEach("states", outside(0, 5), OUTSIDE, v -> some().states(v));
         dueEach("states of a new object", outside(0, 5), OUTSIDE, v -> new Press().states(v));
+    }
 
-        heading = "Promise 14";
-        Press chain = with("aaaaaa", "aaaaaaaaaa", "dddaaa", "adddda", "dddaaa", "aaaaaa");
+    private static void promise14() {
+        String heading = "Promise 14";
+        Press chain = comingBack();
+        Press same = oneState();
+        Press far = sixStates();
         sentence(heading, "0: its first copy");
         dueAll("first copies", answers(3, v -> chain.state(v, 0)), 0, 2, 3, UNKNOWN);
         due("of six", far.state(5, 0), 5);
         sentence(heading, "1: how many copies belong to it");
         dueAll("copies", answers(2, v -> chain.state(v, 1)), 2, 2, 1);
         due("all six", same.state(0, 1), 6);
-        due("none of the excluded ones", excluded.state(0, 1), 1);
+        due("none of the excluded ones", fiveExcluded().state(0, 1), 1);
         sentence(heading, "2: its parent, NONE for state 0");
         dueAll("parents", answers(2, v -> chain.state(v, 2)), NONE, 0, 1);
         due("state 0 alone", same.state(0, 2), NONE);
@@ -1177,7 +1296,8 @@ public final class EdgesTest {
         due("state 0 alone", same.state(0, 4), 0);
         sentence(heading, "5: how many places are reverted at it");
         dueAll("reverted places", answers(2, v -> chain.state(v, 5)), 0, 0, 1);
-        sentence(heading, "6: its index, from 0, in the order in which the states came to belong to the tree (so 0 for state 0).");
+        sentence(heading, "6: its index, from 0, in the order in which the states came to belong to the tree (so 0"
+                + " for state 0).");
         dueAll("in their order", answers(5, v -> far.state(v, 6)), 0, 1, 2, 3, 4, 5);
         Press back = with("aaaaa", "ddddd", "dddda", "dddaa", "ddaaa", "daaaa");
         dueAll("back", answers(5, v -> back.state(v, 6)), 0, 5, 4, 3, 2, 1);
@@ -1187,27 +1307,31 @@ public final class EdgesTest {
         dueEach("state(v, 0)", outside(0, 1), UNKNOWN, v -> some().state(v, 0));
         dueEach("state of six", outside(0, 5), UNKNOWN, v -> with("a", "d", "g", "k", "m", "p").state(v, 0));
         due("copies of one state", same.state(1, 0), UNKNOWN);
-        due("an excluded copy", excluded.state(1, 0), UNKNOWN);
+        due("an excluded copy", fiveExcluded().state(1, 0), UNKNOWN);
         sentence(heading, "OUTSIDE if what is not 0 to 6");
         dueEach("state(0, v)", outside(0, 6), OUTSIDE, v -> some().state(0, v));
         dueEach("state(1, v)", outside(0, 6), OUTSIDE, v -> some().state(1, v));
+    }
 
-        heading = "Promise 15";
+    private static void promise15() {
+        String heading = "Promise 15";
         sentence(heading, "Returns the distance of two states");
-        due("a state and itself", far.far(5, 5), 0);
-        due("the states 0 and 5", far.far(0, 5), 24);
-        due("the states 5 and 0", far.far(5, 0), 24);
+        due("a state and itself", sixStates().far(5, 5), 0);
+        due("the states 0 and 5", sixStates().far(0, 5), 24);
+        due("the states 5 and 0", sixStates().far(5, 0), 24);
         sentence(heading, "UNKNOWN if one of them does not exist");
         due("a new object", new Press().far(0, 0), UNKNOWN);
         dueEach("far(v, 0)", outside(0, 1), UNKNOWN, v -> some().far(v, 0));
         dueEach("far(1, v)", outside(0, 1), UNKNOWN, v -> some().far(1, v));
         dueEach("far(v, v)", outside(0, 5), UNKNOWN, v -> with("a", "d", "g", "k", "m", "p").far(v, v));
+    }
 
-        heading = "Promise 16";
+    private static void promise16() {
+        String heading = "Promise 16";
         sentence(heading, "Returns 1 if a place is reverted at a state, else 0");
-        dueAll("state 2", answers(5, p -> chain.turned(2, p)), 1, 0, 0, 0, 0, 0);
-        dueAll("state 1", answers(5, p -> chain.turned(1, p)), 0, 0, 0, 0, 0, 0);
-        dueAll("state 0", answers(5, p -> chain.turned(0, p)), 0, 0, 0, 0, 0, 0);
+        dueAll("state 2", answers(5, p -> comingBack().turned(2, p)), 1, 0, 0, 0, 0, 0);
+        dueAll("state 1", answers(5, p -> comingBack().turned(1, p)), 0, 0, 0, 0, 0, 0);
+        dueAll("state 0", answers(5, p -> comingBack().turned(0, p)), 0, 0, 0, 0, 0, 0);
         sentence(heading, "UNKNOWN if there is no such state or place");
         due("a new object", new Press().turned(0, 0), UNKNOWN);
         dueEach("turned(v, 0)", outside(0, 1), UNKNOWN, v -> some().turned(v, 0));
@@ -1217,7 +1341,7 @@ public final class EdgesTest {
         due("the place 23", full().turned(0, 23), 0);
     }
 
-    private static void promises17To19() {
+    private static void promise17() {
         String heading = "Promise 17";
         sentence(heading, "Adds a sighting. @return its number");
         Press x = new Press();
@@ -1245,15 +1369,18 @@ public final class EdgesTest {
         due("11 sightings", removed(full(), 11).see(5, 0, 5, 1), 11);
         due("12 sightings", full().see(3, 0, 5, 1), FULL);
         due("12 sightings, far away", full().see(5, 2, 9, 9), FULL);
+    }
 
-        heading = "Promise 18";
-        sentence(heading, "Removes a sighting; the numbers of the sightings behind it decrease by 1. @return how many sightings are left");
+    private static void promise18() {
+        String heading = "Promise 18";
+        sentence(heading, "Removes a sighting; the numbers of the sightings behind it decrease by 1. @return how"
+                + " many sightings are left");
         for (int gone : new int[] {0, 5, 11}) {
-            Press y = fillSightings(new Press());
+            Press y = circle();
             due("unsee(" + gone + ")", y.unsee(gone), 11);
             for (int what = 0; what < 4; what++) {
                 int column = what;
-                Press twin = fillSightings(new Press());
+                Press twin = circle();
                 dueAll("seen(.., " + what + ") without " + gone, answers(10, i -> y.seen(i, column)),
                         answers(10, i -> twin.seen(i < gone ? i : i + 1, column)));
             }
@@ -1267,8 +1394,10 @@ public final class EdgesTest {
         dueEach("unsee", outside(0, 2), UNKNOWN, v -> some().unsee(v));
         dueEach("unsee of twelve", outside(0, 11), UNKNOWN, v -> full().unsee(v));
         due("one that was removed", removed(some(), 0).unsee(2), UNKNOWN);
+    }
 
-        heading = "Promise 19";
+    private static void promise19() {
+        String heading = "Promise 19";
         sentence(heading, "what = 0: the type; 1: the forme; 2: the spot; 3: the wear");
         Press ends = new Press();
         ends.see(0, 5, 9, 1);
@@ -1288,73 +1417,81 @@ public final class EdgesTest {
         return x;
     }
 
-    private static void promises20To22() {
+    private static void promise20() {
         String heading = "Promise 20";
         sentence(heading, "`forme`: the forme, 0 to 5.");
-        dueAll("six formes", answers(5, f -> fillSightings(new Press()).forme(f, 0)), 2, 2, 2, 2, 2, 2);
+        dueAll("six formes", answers(5, f -> circle().forme(f, 0)), 2, 2, 2, 2, 2, 2);
         Press none = new Press();
         Press x = some();
-        Press circle = fillSightings(new Press());
-        Press bare = removed(new Press().seeAll(new int[] {0, 3, 1}), 0);
-        Press most = new Press();
-        for (int type = 0; type < 6; type++) {
-            most.see(type, 5, type, 9);
-        }
+        Press circle = circle();
         sentence(heading, "0: how many sightings there are of it");
         dueAll("no sighting", answers(5, f -> none.forme(f, 0)), 0, 0, 0, 0, 0, 0);
         dueAll("three formes", answers(5, f -> x.forme(f, 0)), 1, 1, 0, 0, 1, 0);
-        due("six types", most.forme(5, 0), 6);
-        due("none is left", bare.forme(3, 0), 0);
+        due("six types", allTypes().forme(5, 0), 6);
+        due("none is left", bare().forme(3, 0), 0);
         sentence(heading, "1: the set of the formes of which it is ahead");
         dueAll("no sighting", answers(5, f -> none.forme(f, 1)), 0, 0, 0, 0, 0, 0);
         dueAll("a circle", answers(5, f -> circle.forme(f, 1)), 2, 4, 8, 16, 32, 1);
-        due("the only one", most.forme(5, 1), 0);
-        sentence(heading, "2: the set of the other seen formes with which it can stand together (0 if it is not seen)");
+        due("the only one", allTypes().forme(5, 1), 0);
+        sentence(heading, "2: the set of the other seen formes with which it can stand together (0 if it is not"
+                + " seen)");
         dueAll("no sighting", answers(5, f -> none.forme(f, 2)), 0, 0, 0, 0, 0, 0);
         dueAll("three formes", answers(5, f -> x.forme(f, 2)), 16, 16, 0, 0, 3, 0);
-        dueAll("a circle", answers(5, f -> circle.forme(f, 2)), 4 + 8 + 16, 8 + 16 + 32, 1 + 16 + 32, 1 + 2 + 32, 1 + 2 + 4, 2 + 4 + 8);
-        due("the only one", most.forme(5, 2), 0);
+        dueAll("a circle", answers(5, f -> circle.forme(f, 2)),
+                4 + 8 + 16, 8 + 16 + 32, 1 + 16 + 32, 1 + 2 + 32, 1 + 2 + 4, 2 + 4 + 8);
+        due("the only one", allTypes().forme(5, 2), 0);
         sentence(heading, "3: its index, from 0, in the first order, NONE if it is not seen or there is no order");
         dueAll("no sighting", answers(5, f -> none.forme(f, 3)), NONE, NONE, NONE, NONE, NONE, NONE);
         dueAll("three formes", answers(5, f -> x.forme(f, 3)), 0, 1, NONE, NONE, 2, NONE);
         dueAll("a circle", answers(5, f -> circle.forme(f, 3)), NONE, NONE, NONE, NONE, NONE, NONE);
-        due("the only one", most.forme(5, 3), 0);
-        due("no longer seen", bare.forme(3, 3), NONE);
+        due("the only one", allTypes().forme(5, 3), 0);
+        due("no longer seen", bare().forme(3, 3), NONE);
         sentence(heading, "4: its press, NONE if it is not seen.");
         dueAll("no sighting", answers(5, f -> none.forme(f, 4)), NONE, NONE, NONE, NONE, NONE, NONE);
         dueAll("three formes", answers(5, f -> x.forme(f, 4)), 0, 1, NONE, NONE, 0, NONE);
         dueAll("without an order too", answers(5, f -> circle.forme(f, 4)), 0, 1, 0, 1, 0, 1);
-        due("no longer seen", bare.forme(3, 4), NONE);
+        due("no longer seen", bare().forme(3, 4), NONE);
         sentence(heading, "UNKNOWN if forme is not 0 to 5");
         dueEach("forme(v, 0)", outside(0, 5), UNKNOWN, v -> some().forme(v, 0));
         dueEach("forme(v, 4)", outside(0, 5), UNKNOWN, v -> new Press().forme(v, 4));
         sentence(heading, "OUTSIDE if what is not 0 to 4");
         dueEach("forme(0, v)", outside(0, 4), OUTSIDE, v -> some().forme(0, v));
         dueEach("forme(5, v), not seen", outside(0, 4), OUTSIDE, v -> some().forme(5, v));
+    }
 
-        heading = "Promise 21";
-        Press one = new Press().seeAll(new int[] {5, 5, 9});
+    private static void promise21() {
+        String heading = "Promise 21";
         sentence(heading, "what = 0: how many formes are seen");
-        dueAll("formes", new int[] {none.formes(0), bare.formes(0), one.formes(0), most.formes(0), circle.formes(0)}, 0, 0, 1, 1, 6);
+        dueAll("formes", fiveAnswers(0), 0, 0, 1, 1, 6);
         sentence(heading, "1: how many orders there are (1 if no forme is seen)");
-        dueAll("orders", new int[] {none.formes(1), bare.formes(1), one.formes(1), most.formes(1), circle.formes(1)}, 1, 1, 1, 1, 0);
-        due("4 is free", x.formes(1), 3);
+        dueAll("orders", fiveAnswers(1), 1, 1, 1, 1, 0);
+        due("4 is free", some().formes(1), 3);
         sentence(heading, "2: how many sightings the fault has");
-        dueAll("sightings", new int[] {none.formes(2), bare.formes(2), one.formes(2), most.formes(2), circle.formes(2)}, 0, 0, 0, 0, 1);
+        dueAll("sightings", fiveAnswers(2), 0, 0, 0, 0, 1);
         sentence(heading, "3: the fault");
-        dueAll("faults", new int[] {none.formes(3), bare.formes(3), one.formes(3), most.formes(3), circle.formes(3)}, 0, 0, 0, 0, 1);
+        dueAll("faults", fiveAnswers(3), 0, 0, 0, 0, 1);
         sentence(heading, "4: the number of presses");
-        dueAll("presses", new int[] {none.formes(4), bare.formes(4), one.formes(4), most.formes(4), circle.formes(4)}, 0, 0, 1, 1, 2);
+        dueAll("presses", fiveAnswers(4), 0, 0, 1, 1, 2);
         sentence(heading, "5: the set of the types of which there are sightings");
-        dueAll("types", new int[] {none.formes(5), bare.formes(5), one.formes(5), most.formes(5), circle.formes(5)}, 0, 0, 32, 63, 63);
+        dueAll("types", fiveAnswers(5), 0, 0, 32, 63, 63);
         sentence(heading, "OUTSIDE if what is not 0 to 5");
         dueEach("formes", outside(0, 5), OUTSIDE, v -> some().formes(v));
         dueEach("formes of a new object", outside(0, 5), OUTSIDE, v -> new Press().formes(v));
+    }
 
-        heading = "Promise 22";
+    /** Of a new object, one without a sighting again, one with one, with one forme of six types, and with no order. */
+    private static int[] fiveAnswers(int what) {
+        return new int[] {
+            new Press().formes(what), bare().formes(what), oneSighting().formes(what), allTypes().formes(what),
+            circle().formes(what)
+        };
+    }
+
+    private static void promise22() {
+        String heading = "Promise 22";
         sentence(heading, "Returns the forme with an index, from 0, in the first order");
         dueAll("three formes", answers(2, some()::order), 0, 1, 4);
-        due("one forme", one.order(0), 5);
+        due("one forme", oneSighting().order(0), 5);
         sentence(heading, "UNKNOWN if there is no such index, or if there is no order");
         due("no forme is seen", new Press().order(0), UNKNOWN);
         dueAll("three formes", answers(3, some()::order), 0, 1, 4, UNKNOWN);
@@ -1366,7 +1503,7 @@ public final class EdgesTest {
         dueAll("there is one", answers(6, mended::order), 0, 1, 2, 3, 4, 5, UNKNOWN);
     }
 
-    private static void promises23To24() {
+    private static void promise23() {
         String heading = "Promise 23";
         Press none = new Press();
         Press most = full();
@@ -1386,21 +1523,25 @@ public final class EdgesTest {
         sentence(heading, "OUTSIDE if what is not 0 to 5");
         dueEach("count", outside(0, 5), OUTSIDE, v -> some().count(v));
         dueEach("count of a new object", outside(0, 5), OUTSIDE, v -> new Press().count(v));
+    }
 
-        heading = "Promise 24";
-        sentence(heading, "h is 1607 at first; for each value v in the following order, h becomes 31 h + v (as longs, with overflow)");
+    private static void promise24() {
+        String heading = "Promise 24";
+        sentence(heading, "h is 1607 at first; for each value v in the following order, h becomes 31 h + v (as"
+                + " longs, with overflow)");
         due("a new object", new Press().digest(), hash(valuesOf(Press::new, "")));
         BigInteger exact = exactHash(valuesOf(EdgesTest::full, LONG));
         dueTrue("there is an overflow", exact.bitLength() > 1000);
         due("with overflow", full().digest(), exact.longValue());
         due("nothing is changed by it", twice(full()), full().digest());
 
-        sentence(heading, "for each copy in ascending order, of() for what = 0 to 4, the codes of its letters, and, if it is not excluded,"
-                + " reading() for all places; for each pair of copies a and b with a less than b, by a, then by b, collate(a, b, 0)"
-                + " to collate(a, b, 6); states(0) to states(5); for each state in ascending order, state() for what = 0 to 6; for"
-                + " each sighting in ascending order, seen() for what = 0 to 3; for each forme from 0 to 5, forme() for what = 0 to"
-                + " 4; formes(0) to formes(5); if there is an order, order() for all its indices; the codes of the characters of the"
-                + " page; count(0) to count(5).");
+        sentence(heading, "for each copy in ascending order, of() for what = 0 to 4, the codes of its letters, and,"
+                + " if it is not excluded, reading() for all places; for each pair of copies a and b with a less"
+                + " than b, by a, then by b, collate(a, b, 0) to collate(a, b, 6); states(0) to states(5); for each"
+                + " state in ascending order, state() for what = 0 to 6; for each sighting in ascending order,"
+                + " seen() for what = 0 to 3; for each forme from 0 to 5, forme() for what = 0 to 4; formes(0) to"
+                + " formes(5); if there is an order, order() for all its indices; the codes of the characters of"
+                + " the page; count(0) to count(5).");
         dueDigest("reverted places", () -> with("adgkmpqw", "xxgkmpq", "xxyympqz", "xxyyzpq"), "");
         dueDigest("six copies, twelve sightings", EdgesTest::full, LONG);
 
@@ -1408,13 +1549,14 @@ public final class EdgesTest {
         dueDigest("an excluded copy", EdgesTest::some, "ab");
         dueDigest("the band 0", () -> withBand(0, "ab", "ba", "abc", "cd"), "");
         dueDigest("the band 9", () -> withBand(9, LONG, LONG.substring(9), LONG.substring(10), LONG.substring(0, 15)), "");
-        sentence(heading, "for each pair of copies a and b with a less than b, by a, then by b, collate(a, b, 0) to collate(a, b, 6)");
+        sentence(heading, "for each pair of copies a and b with a less than b, by a, then by b, collate(a, b, 0) to"
+                + " collate(a, b, 6)");
         dueDigest("no pair", () -> with("q"), "");
         dueDigest("one pair", () -> with("abc", "ac"), "");
         dueDigest("three pairs, one without an alignment", () -> with("abc", "a", "abcde"), "");
         sentence(heading, "if there is an order, order() for all its indices");
-        dueDigest("no order", () -> fillSightings(new Press()), "");
-        dueDigest("an order of six", () -> removed(fillSightings(new Press()), 11), "");
+        dueDigest("no order", () -> circle(), "");
+        dueDigest("an order of six", () -> removed(circle(), 11), "");
         dueDigest("an order of one", () -> new Press().seeAll(new int[] {5, 5, 1}), "");
         sentence(heading, "the codes of the characters of the page");
         dueDigest("no copy, a page", () -> new Press().type(" ~a"), " ~a");
