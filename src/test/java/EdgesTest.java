@@ -957,6 +957,13 @@ public final class EdgesTest {
         mended.unsee(11);
         mended.see(5, 0, 1, 1);
         due("an order by another wear", mended.formes(3), 0);
+        Press emptied = circle();
+        due("no order", emptied.formes(3), 1);
+        for (int left = 11; left >= 0; left--) {
+            emptied.unsee(left);
+        }
+        due("no sighting is left", emptied.formes(3), 0);
+        due("no sighting is left", emptied.formes(2), 0);
     }
 
     private static void standing() {

@@ -20,6 +20,7 @@ public final class PromisesTest {
         collate();
         similarLetters();
         bandedAlignment();
+        allPairsOfSix();
         step();
         reading();
         states();
@@ -27,6 +28,7 @@ public final class PromisesTest {
         state();
         far();
         turned();
+        severalReversions();
         see();
         unsee();
         seen();
@@ -35,6 +37,7 @@ public final class PromisesTest {
         formes();
         faults();
         order();
+        orderOfSix();
         whatWasDerived();
         count();
         digest();
@@ -356,6 +359,35 @@ public final class PromisesTest {
         due("24 unlike pairs", x.collate(0, 1, 4), 24);
     }
 
+    private static void allPairsOfSix() {
+        promise = "10, all pairs";
+        StopPress x = with("a", "ad", "adg", "adgk", "adgkm", "adgkmp");
+        x.band(9);
+        for (int time = 0; time < 2; time++) {
+            for (int one = 0; one < 6; one++) {
+                for (int other = 0; other < 6; other++) {
+                    due("left out, " + one + " and " + other, x.collate(one, other, 5), Math.max(0, one - other));
+                    due("added, " + one + " and " + other, x.collate(one, other, 6), Math.max(0, other - one));
+                }
+            }
+        }
+        // Each copy in turn is replaced: all of its alignments are others then, and those of the rest stay.
+        for (int copy = 5; copy >= 0; copy--) {
+            x = with("a", "a", "a", "a", "a", "a");
+            for (int other = 0; other < 6; other++) {
+                due("before", x.collate(copy, other, 0) + x.collate(other, copy, 0), 0);
+            }
+            type(x, "d");
+            x.correct(copy);
+            for (int other = 0; other < 6; other++) {
+                int want = other == copy ? 0 : 3;
+                due(copy + " and " + other, x.collate(copy, other, 0), want);
+                due(other + " and " + copy, x.collate(other, copy, 0), want);
+            }
+            due("the others", x.collate((copy + 1) % 6, (copy + 2) % 6, 0), 0);
+        }
+    }
+
     private static void step() {
         promise = "11";
         StopPress x = with("aa", "a", "ab", "ba", "aaaaaaaa");
@@ -517,6 +549,31 @@ public final class PromisesTest {
         due("states", x.states(0), 3);
         due("parent of 2 is 0", x.state(2, 2), 0);
         due("turned(2, 1)", x.turned(2, 1), 0);
+    }
+
+    private static void severalReversions() {
+        promise = "16, several places";
+        // A chain of four states: at state 2 two places are back, at state 3 another one.
+        StopPress x = with("aaaaaaaaaa", "dddddaaaaa", "aadddgggaa", "aaaddgggkk");
+        for (int state = 1; state < 4; state++) {
+            due("parent of " + state, x.state(state, 2), state - 1);
+        }
+        for (int state = 2; state < 4; state++) {
+            for (int place = 0; place < 10; place++) {
+                int want = state == 2 && place < 2 || state == 3 && place == 2 ? 1 : 0;
+                due("turned(" + state + ", " + place + ")", x.turned(state, place), want);
+            }
+        }
+        due("state(2, 5)", x.state(2, 5), 2);
+        due("state(3, 5)", x.state(3, 5), 1);
+        due("states(4)", x.states(4), 3);
+        // With another state 2 none is back at it, but all three are at state 3.
+        type(x, "dddddgggaa");
+        x.correct(2);
+        due("state(2, 5)", x.state(2, 5), 0);
+        due("state(3, 5)", x.state(3, 5), 3);
+        due("states(4)", x.states(4), 3);
+        due("turned(2, 0)", x.turned(2, 0), 0);
     }
 
     private static void see() {
@@ -770,6 +827,19 @@ public final class PromisesTest {
         x.see(2, 0, 2, 1);
         due("the fault has sighting 0", x.formes(3), 1);
         due("presses", x.formes(4), 2);
+    }
+
+    private static void orderOfSix() {
+        promise = "22, six formes";
+        StopPress x = new StopPress();
+        for (int forme = 0; forme < 6; forme++) {
+            x.see(0, forme, 0, 9 - forme);
+        }
+        for (int forme = 0; forme < 6; forme++) {
+            due("index of " + forme, x.forme(forme, 3), 5 - forme);
+            due("order(" + forme + ")", x.order(forme), 5 - forme);
+        }
+        due("orders", x.formes(1), 1);
     }
 
     private static void whatWasDerived() {
